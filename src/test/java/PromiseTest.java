@@ -278,6 +278,8 @@ public final class PromiseTest {
         dueFault(x, "", 0, 1);
         dueFault(x, "  \n", 3, 1);
         dueFault(x, " lawn 1 0;", 1, 1);
+        dueFault(x, "lawz 1 0;", 0, 1);
+        dueFault(x, "alaw 1 0;", 0, 1);
         dueFault(x, "la", 0, 1);
         dueFault(x, "Law 1 0;", 0, 1);
         dueFault(x, "law\t1 0;", 3, 1);
@@ -708,6 +710,8 @@ public final class PromiseTest {
         due(0, x.risk(0, 3, 1));
         x.row(1, 0, 40);
         due(40, x.risk(1, 0, 40));
+        x.row(7, 2, 40);
+        due(40, x.risk(7, 0, 40));
     }
 
     private static void lies() {
