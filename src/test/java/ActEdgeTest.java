@@ -19,6 +19,7 @@ public final class ActEdgeTest extends EdgeTest {
         moreThanItBears();
         weakest();
         worn();
+        nineYarns();
         yearSeeds();
         truths();
         drawsInOrder();
@@ -356,6 +357,36 @@ public final class ActEdgeTest extends EdgeTest {
             due(last[y], x.yarn(y, 5));
         }
         due(3, x.count(3));
+    }
+
+    private static void nineYarns() {
+        says("YARNS 0 .. 8: what is done with the last one is done with no other");
+        VowRope x = told("law 50 20;speaker 5 5;" + yarns(9, "vow 0 9"));
+        layAll(x, "012012012");
+        due(NONE, x.pull(0, 1));
+        due(NONE, x.pull(0, 1));
+        due(0, x.count(5));
+        due(9, x.count(3));
+        due(0, x.pull(9999, 1));
+        due(6, x.count(3));
+        for (int y = 0; y < 9; y++) {
+            int[] dues = {0, 9, y % 3 == 0 ? 443 : 448, y % 3 == 0 ? -1 : y % 3, 0, y % 3 == 0 ? 7 : 2, 0};
+            for (int what = 0; what < 7; what++) {
+                due(dues[what], x.yarn(y, what));
+            }
+        }
+        due(2, x.splice(8));
+        due(468 + 2, x.pitch(8));
+        due(2, x.lay(8, 1));
+        due(0, x.vow(8, 2));
+        for (int y = 0; y < 8; y++) {
+            due(y % 3 == 0 ? 7 : 2, x.yarn(y, 5));
+            due(0, x.yarn(y, 6));
+            due(0, x.yarn(y, 4));
+            due(y % 3 == 0 ? -1 : y % 3, x.yarn(y, 3));
+        }
+        due(1, x.count(5));
+        due(6, x.count(3));
     }
 
     private static void yearSeeds() {

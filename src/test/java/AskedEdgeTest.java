@@ -12,6 +12,7 @@ public final class AskedEdgeTest extends EdgeTest {
         lastYarn();
         askNumbers();
         trace();
+        traceStays();
         counts();
         mostCounts();
         status();
@@ -165,6 +166,22 @@ public final class AskedEdgeTest extends EdgeTest {
         x.ask(-1, 1);
         x.ask(0, 2);
         x.ask(0, -1);
+        due(13, x.trace(0));
+        due(10, x.trace(1));
+        due(NONE, x.trace(2));
+    }
+
+    private static void traceStays() {
+        says("THE TRACE is as the latest ASK left it, behind another WALK, too");
+        VowRope x = told(SORTS);
+        x.image(0);
+        x.ask(3, 0);
+        walkOf(x, "law 1 0;");
+        due(13, x.trace(0));
+        due(10, x.trace(1));
+        x.restore(0);
+        x.lay(0, 0);
+        x.undo();
         due(13, x.trace(0));
         due(10, x.trace(1));
         due(NONE, x.trace(2));

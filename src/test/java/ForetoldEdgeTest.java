@@ -8,6 +8,7 @@ public final class ForetoldEdgeTest extends EdgeTest {
         bestNumbers();
         bestFew();
         bestFirst();
+        foretoldAnew();
         nothingChanges();
         cheapestNumbers();
         cheapestLoads();
@@ -74,6 +75,8 @@ public final class ForetoldEdgeTest extends EdgeTest {
         dueBest(x, 0, 0, 0, 0);
         x.vow(2, 1);
         dueBest(x, 3, 0, 1, 2);
+        x.vow(2, 2);
+        dueBest(x, 0, 0, 0, 0);
         x = vows(2, 2, 2, 2, 2, 2);
         for (int y = 0; y < 6; y++) {
             x.vow(y, 2);
@@ -90,6 +93,11 @@ public final class ForetoldEdgeTest extends EdgeTest {
     }
 
     private static void bestFirst() {
+        says("so that THE ROPE BEARS most: by the weakest STRAND, whichever it is");
+        dueBest(vows(1, 9, 9), 3, 0, 1, 2);
+        dueBest(vows(9, 1, 9), 3, 0, 1, 2);
+        dueBest(vows(9, 9, 1), 3, 0, 1, 2);
+        dueBest(vows(4, 9, 2, 9), 18, 0, 1, 0, 2);
         says("BEST: the row of STRANDS, of several the first");
         dueBest(vows(1, 1, 1, 1), 3, 0, 0, 1, 2);
         dueBest(vows(1, 1, 2, 2), 6, 0, 0, 1, 2);
@@ -105,6 +113,28 @@ public final class ForetoldEdgeTest extends EdgeTest {
         x.vow(3, 0);
         x.vow(0, 2);
         dueBest(x, 15, 0, 0, 1, 2);
+    }
+
+    private static void foretoldAnew() {
+        says("FORETOLD of the WALK that stands, not of one before it");
+        VowRope x = thrice("law 9 0;speaker 5 1;", "vow 0 9");
+        dueBest(x, 729, 0, 0, 0, 1, 1, 1, 2, 2, 2);
+        dueCheapest(x, 729, 81, 511);
+        // KEPT 121 each: two are 242
+        dueOdds(x, 726, 1, 8);
+        dueOdds(x, 727, 1, 512);
+        walkOf(x, "law 1 0;speaker 5 1;yarn vow 0 2;yarn vow 0 1;yarn vow 0 2;yarn vow 0 1;");
+        dueBest(x, 6, 0, 1, 2, 1);
+        dueCheapest(x, 6, 6, 15);
+        dueCheapest(x, 7, NONE, NONE);
+        dueOdds(x, 1, 0, 1);
+        walkOf(x, "law 1 0;speaker 5 1;yarn vow 0 2;");
+        dueBest(x, 0, 0);
+        dueCheapest(x, 1, NONE, NONE);
+        walkOf(x, "law 1 0;");
+        dueBest(x, 0);
+        dueCheapest(x, 1, NONE, NONE);
+        dueOdds(x, 0, 1, 1);
     }
 
     private static void nothingChanges() {
@@ -219,6 +249,11 @@ public final class ForetoldEdgeTest extends EdgeTest {
         dueCheapest(x, 1, NONE, NONE);
         dueCheapest(vows(9, 9), 0, 0, 0);
         dueCheapest(vows(9, 9), 1, NONE, NONE);
+        x = told("law 1 0;speaker 5 0;" + yarns(9, "hope 0 1"));
+        dueCheapest(x, 0, 0, 0);
+        dueCheapest(x, 1, NONE, NONE);
+        x = told("law 1 0;speaker 5 0;" + yarns(7, "hope 0 1") + yarns(2, "vow 0 1"));
+        dueCheapest(x, 1, NONE, NONE);
         x = vows(9, 9, 9);
         dueCheapest(x, 27, 27, 7);
         dueCheapest(x, 28, NONE, NONE);
@@ -270,7 +305,10 @@ public final class ForetoldEdgeTest extends EdgeTest {
         dueOdds(thrice("law 2 0;speaker 0 0;", "oath 0 1"), 36, 1, 1);
         dueOdds(thrice("law 2 0;speaker 0 0;", "oath 0 1"), 37, 0, 1);
         dueOdds(thrice("law 2 0;speaker 10 0;", "lie 0 1"), 1, 0, 1);
+        says("a debt, a hope by TRUTH, as others");
         dueOdds(thrice("law 4 0;speaker 10 0;", "hope 0 1"), 27, 1, 1);
+        dueOdds(thrice("law 4 0;speaker 0 0;", "hope 0 1"), 1, 0, 1);
+        dueOdds(thrice("law 2 0;speaker 0 0;", "debt 0 1"), 1, 0, 1);
         dueOdds(thrice("law 2 0;speaker 10 0;", "debt 0 1"), 36, 1, 1);
         says("vows that are told stay: KEPT, BROKEN");
         VowRope x = thrice("law 2 0;speaker 5 0;", "lie 0 1");
@@ -474,6 +512,18 @@ public final class ForetoldEdgeTest extends EdgeTest {
         due(26, x.whose(0, 1));
         x.vow(0, 1);
         due(27, x.whose(0, 1));
+        for (int y = 0; y < 5; y++) {
+            VowRope one = told("law 10 0;speaker 5 5;" + yarns(5, "vow 0 1"));
+            layAll(one, "22222");
+            one.vow(y, 2);
+            due(31 - (1 << y), one.whose(0, 1));
+            one.vow(y, 0);
+            one.lay(y, -1);
+            due(31 - (1 << y), one.whose(0, 1));
+        }
+        due(511, thrice("law 1 0;speaker 5 5;", "vow 0 1").whose(0, 9999));
+        due(511, thrice("law 1 0;speaker 5 5;", "vow 0 1").whose(6, 9));
+        due(0, thrice("law 1 0;speaker 5 5;", "vow 0 1").whose(9, 10));
         says("a YARN without STRENGTH that is not BROKEN");
         x = told("law 1 0;speaker 5 5;yarn hope 0 1;yarn vow 0 1;yarn vow 0 1;yarn vow 0 1;");
         layAll(x, "0012");

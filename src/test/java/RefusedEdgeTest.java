@@ -157,7 +157,14 @@ public final class RefusedEdgeTest extends EdgeTest {
 
     /** A rope with all that a call could change; rows 0 to 3 are there, yarn 3 is PITCHED and WORN. */
     private static VowRope rope() {
+        VowRope x = ropeWithoutTape();
+        feedText(x, "law 2 1;speaker 1 1;");
+        return x;
+    }
+
+    private static VowRope ropeWithoutTape() {
         VowRope x = told("law 6 3;speaker 5 9;speaker 2 4;yarn vow 0 3;yarn oath 1 3;yarn hope 0 9;yarn debt 1 2;");
+        due(-1000100, x.walk());
         layAll(x, "012");
         x.image(1);
         x.vow(0, 1);
@@ -172,8 +179,6 @@ public final class RefusedEdgeTest extends EdgeTest {
             x.set(r, r % 3, r - 1);
         }
         x.ask(3, 0);
-        x.walk();
-        feedText(x, "law 2 1;speaker 1 1;");
         return x;
     }
 
@@ -407,21 +412,13 @@ public final class RefusedEdgeTest extends EdgeTest {
             "law 9 9;speaker 0 0;" + yarns(10, "lie 0 9")};
         int[] numbers = {1, 1, 2, 1, 1, 3, 3};
         for (int k = 0; k < wrong.length; k++) {
-            VowRope x = faulted();
+            VowRope x = ropeWithoutTape();
             due(1, walkOf(x, wrong[k]) <= -1000100 ? 1 : 0);
             due(numbers[k], x.fault());
             due(0, x.count(6));
             // the latest FAULT is 1 again, as the other rope's is
             due(-1000100, walkOf(x, "?"));
-            due(1, seenOf(x).equals(seenOf(faulted())) ? 1 : 0);
+            due(1, seenOf(x).equals(seenOf(ropeWithoutTape())) ? 1 : 0);
         }
-    }
-
-    /** A rope whose tape was read with a FAULT. */
-    private static VowRope faulted() {
-        VowRope x = rope();
-        feedText(x, "?");
-        due(-1000120, x.walk());
-        return x;
     }
 }

@@ -7,6 +7,7 @@ public final class TextEdgeTest extends EdgeTest {
         fullTape();
         readTape();
         names();
+        letters();
         numbers();
         signs();
         blanks();
@@ -161,6 +162,24 @@ public final class TextEdgeTest extends EdgeTest {
         }
         for (String none : new String[] {"yarn", "law", "speaker", "0", ";", ""}) {
             dueFault(ONE + "yarn " + none + " 0 1;", none.isEmpty() ? 26 : 25, 1);
+        }
+    }
+
+    /** Each word of a text with one letter that is another one, or that is told twice, or that is left out. */
+    private static void letters() {
+        says("1 it cannot stand there: a word that is not the word, by one letter");
+        for (String sort : new String[] {"vow", "oath", "lie", "hope", "debt"}) {
+            String text = ONE + "yarn " + sort + " 0 1;";
+            dueWalk(text, 1);
+            int[][] words = {{0, 3}, {8, 15}, {20, 24}, {25, 25 + sort.length()}};
+            for (int[] word : words) {
+                for (int at = word[0]; at < word[1]; at++) {
+                    char other = text.charAt(at) == 'q' ? 'x' : 'q';
+                    dueFault(text.substring(0, at) + other + text.substring(at + 1), word[0], 1);
+                    dueFault(text.substring(0, at) + text.substring(at + 1), word[0], 1);
+                    dueFault(text.substring(0, at + 1) + text.substring(at), word[0], 1);
+                }
+            }
         }
     }
 
@@ -436,6 +455,16 @@ public final class TextEdgeTest extends EdgeTest {
                 due(dues[what], x.yarn(y, what));
             }
         }
+        says("a WALK that is read leaves ROWS and IMAGES as they are");
+        x.row(0, 2, 3);
+        x.row(7, 2, 4);
+        x.image(1);
+        walkOf(x, LAW);
+        due(2, x.count(0));
+        due(4, x.drop(7));
+        due(3, x.drop(0));
+        due(1, x.restore(1));
+        due(9, x.count(2));
         says("fewer YARNS than before, and none");
         due(1, walkOf(x, ONE + "yarn lie 0 1;"));
         due(BAD, x.yarn(1, 0));
