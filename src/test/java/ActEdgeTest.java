@@ -387,6 +387,18 @@ public final class ActEdgeTest extends EdgeTest {
         }
         due(1, x.count(5));
         due(6, x.count(3));
+
+        says("A YEAR of nine YARNS is the same wherever these are LAID");
+        for (int strand = -1; strand < 3; strand++) {
+            x = told("law 50 20;speaker 5 5;" + yarns(9, "vow 0 9"));
+            for (int y = 0; y < 9; y++) {
+                x.lay(y, strand);
+            }
+            // from SEED 1 on: 7, 9, 3, 8, 0, 2, 4, 8, 3
+            due(1 + 2 + 8 + 128, x.year(1));
+            due(4, x.count(5));
+            due(strand < 0 ? 0 : 9, x.count(3));
+        }
     }
 
     private static void yearSeeds() {
