@@ -321,6 +321,17 @@ public final class ForetoldEdgeTest extends EdgeTest {
             x.vow(y, 2);
         }
         dueOdds(x, 1, 0, 1);
+
+        says("BROKEN ones beside others: never KEPT, and no year more");
+        x = told("law 2 0;speaker 5 0;yarn vow 0 1;yarn oath 0 1;yarn oath 0 1;yarn vow 0 1;yarn hope 0 9;");
+        layAll(x, "01201");
+        x.vow(3, 2);
+        x.vow(4, 2);
+        dueOdds(x, 0, 1, 1);
+        dueOdds(x, 9, 1, 2);
+        dueOdds(x, 10, 0, 1);
+        x.vow(0, 1);
+        dueOdds(x, 9, 1, 1);
     }
 
     private static void oddsLowest() {
